@@ -1227,7 +1227,6 @@ public final class MarbleBath {
         static final int STRIKE = 5;
         static final int WIDTH = 6;
         static final int COLOUR_MOST = 7;
-        private static final int KINDS = 6;
         /** Eight patterns of 60 strokes each are the most that is kept at once. */
         private static final int MOST = 480;
         private static final int[] LENGTHS = {4, 4, 6, 3, 1, 1};
@@ -1236,15 +1235,13 @@ public final class MarbleBath {
             0, 0, -1023, 1, 0, 0,
             0, 0, 1, 1, -1023, 1,
             0, 2, -1023, 0, 0, 0,
-            0, 0, 0, 0, 0, 0,
             0, 0, 0, 0, 0, 0};
         private static final int[] GREATEST = {
             1023, 1023, 512, COLOUR_MOST, 0, 0,
             1, 1023, 1023, 1023, 0, 0,
             1, 1023, 1023, 20, 1023, 1023,
             1, 1024, 1023, 0, 0, 0,
-            63, 0, 0, 0, 0, 0,
-            119, 0, 0, 0, 0, 0};
+            63, 0, 0, 0, 0, 0};
 
         private final int[] kinds = new int[MOST];
         private final int[] numbers = new int[MOST * WIDTH];
@@ -1310,14 +1307,11 @@ public final class MarbleBath {
         }
 
         static int numbersOf(int kind) {
-            return kind >= 0 && kind < KINDS && kind < LENGTHS.length ? LENGTHS[kind] : 0;
+            return kind >= 0 && kind < LENGTHS.length ? LENGTHS[kind] : 0;
         }
 
-        /** Whether all numbers of a kind are in their bounds. */
+        /** Whether all numbers of a stroke or a lay are in their bounds. */
         static boolean fits(int kind, int[] told) {
-            if (kind < 0 || kind >= KINDS) {
-                return false;
-            }
             for (int i = 0; i < numbersOf(kind) && i < told.length; i++) {
                 int bound = kind * WIDTH + i;
                 if (bound >= LEAST.length || bound >= GREATEST.length) {
@@ -1327,7 +1321,7 @@ public final class MarbleBath {
                     return false;
                 }
             }
-            return true;
+            return kind >= DROP && kind <= LAY;
         }
     }
 

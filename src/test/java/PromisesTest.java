@@ -8,18 +8,21 @@ public final class PromisesTest {
         faults();
         places();
         room();
+        roomInEachPlace();
         lateFaults();
         drops();
         drags();
         laysAndStrikes();
         fullLog();
         runs();
+        doing();
         breaks();
         facts();
         colours();
         ways();
         homes();
         sheetsAndCells();
+        middles();
         piecesAndEdges();
         made();
         rows();
@@ -215,6 +218,22 @@ public final class PromisesTest {
         fault("pattern q end pattern p(a,b)" + times("do q;", 163) + "end", 0, 0);
         fault("pattern q end pattern p(a,b)" + times("do q;", 163) + "end end", 1, 14 + 14 + 5 * 163 + 4);
         fault("pattern q end pattern p(a,b)" + times("do q;", 163) + "end pattern", 2, 14 + 14 + 5 * 163 + 4);
+    }
+
+    /** Six within one another are told, seven are not, wherever an E stands. */
+    private static void roomInEachPlace() {
+        String[] heads = {"drop ", "drop 1, 1, 1, ", "line x ", "comb y 1, 2, ", "wave x 7, ", "for i = ", "for i = 1 to ",
+            "if ", "if 1 == ", "if 1 == 1 and ", "if 1 == 1 or 2 < ", "do p(", "do p(1, "};
+        String[] tails = {", 1, 1, 1;", ";", ", 1, 1;", ", 4, 5;", ";", " to 3 end", " end",
+            " == 1 end", " end", " <= 1 end", " end", ", 1);", ");"};
+        String start = "pattern p(a, b) end pattern q(c) ";
+        for (int i = 0; i < heads.length; i++) {
+            String ahead = start + heads[i];
+            fault(ahead + "((-(-(c)))) * -(((((c)))))" + tails[i] + " end", 0, 0);
+            fault(ahead + "((-((-((c))))))" + tails[i] + " end", 2, ahead.length() + 6);
+            fault(ahead + "c + -(-(-(-c)))" + tails[i] + " end", 2, ahead.length() + 10);
+            fault(ahead + "c c" + tails[i] + " end", 1, ahead.length() + 2);
+        }
     }
 
     private static void lateFaults() {
@@ -429,6 +448,48 @@ public final class PromisesTest {
         is("14 none broke", m.where(), -1);
     }
 
+    private static void doing() {
+        MarbleBath m = new MarbleBath();
+        is("4", Due.read(m, "pattern a(p, q) for c = 1 to 2 for d = 3 to 4 for e = 5 to 6 for f = 7 to 8 "
+                + "for g = 9 to 10 for h = 11 to 12 if c + d + e + f + g + h == p drop c * 100 + d * 10 + e, "
+                + "f * 100 + g * 10 + h, p, q; end end end end end end end end"), 2);
+        is("4", Due.read(m, "pattern a(p, q) for c = 1 to 2 for d = 3 to 4 for e = 5 to 6 for f = 7 to 8 "
+                + "for g = 9 to 10 for h = 11 to 12 drop c * 100 + d * 10 + e, f * 50 + g * 10 + h, "
+                + "p, q / (c - 1 + 8 - f) % 8; end end end end end end end"), 0);
+        is("12 eight names in reach: 64 drops, but f is 8 at the second", m.run(0, 7, 9), -2);
+        is("13", m.broke(), 3);
+        is("12 and with p, q of the last", m.run(0, 513, 9), -2);
+        is("13", m.broke(), 2);
+        String chain = "pattern a(p, q) drop p, q, 1, 1; end pattern b(p) do a(p, 1); drop p, 2, 1, 1; end "
+                + "pattern c(q) do b(q * 2); drop q, 3, 1, 1; end pattern d for i = 1 to 2 do c(i); "
+                + "drop i, 4, 1, 1; end end pattern e for i = 7 to 8 do d; drop i, 5, 1, 1; end end "
+                + "pattern f(p, q) do e; drop p, q, 1, 1; end pattern g(q, p) do f(q, p); drop q, p, 1, 2; end "
+                + "pattern h(p) do g(p, p + 1); drop p, 8, 1, 3; end";
+        is("4", Due.read(m, chain), 0);
+        is("12 each frame has its own names", m.run(7, 20, 0), 21);
+        int[][] want = {{2, 1}, {2, 2}, {1, 3}, {1, 4}, {4, 1}, {4, 2}, {2, 3}, {2, 4}, {7, 5},
+            {2, 1}, {2, 2}, {1, 3}, {1, 4}, {4, 1}, {4, 2}, {2, 3}, {2, 4}, {8, 5}, {20, 21}, {20, 21}, {20, 8}};
+        for (int i = 0; i < want.length; i++) {
+            is("17 x of " + i, m.number(i, 0), want[i][0]);
+            is("17 y of " + i, m.number(i, 1), want[i][1]);
+        }
+        String[] holds = {"2 < 3", "2 <= 2", "2 <= 3", "2 == 2", "2 != 3", "1 == 2 or 2 == 2", "-1 < 0", "-7 / 2 == -3",
+            "-7 % 3 == -1", "7 % -3 == 1", "2 - 3 < 0", "1 == 1 or 1 == 2 and 1 == 2", "1 == 2 and 1 == 1 or 3 == 3",
+            "1 + 2 * 3 == 7", "(1 + 2) * 3 == 9", "8 - 3 - 2 == 3", "- 2 + 5 == 3", "5 - -2 == 7", "2 * -3 == -6",
+            "1 == 1 or 1 / 0 == 1 and 1 / 0 == 1", "1 != 2 and 2 != 3 and 3 != 4", "7 - 7 / 7 * 7 == 0",
+            "1 == 2 and 1 / 0 == 1 and 1 / 0 == 1 or 1 == 1", "9999 == 9999", "100 % 7 / 2 == 1"};
+        String[] fails = {"3 < 2", "2 < 2", "3 <= 2", "2 == 3", "2 != 2", "1 == 2 or 2 == 3", "1 == 2 and 1 / 0 == 1",
+            "1 == 1 and 1 == 2", "1 == 2 and 1 == 1", "1 == 2 or 1 == 1 and 1 == 2", "1 == 1 and 1 == 1 and 1 == 2"};
+        for (String each : holds) {
+            is("4", Due.read(m, "pattern a if " + each + " wave x 2, 0; else wave x 1, 0; end end"), 0);
+            is("12 holds: " + each, m.run(0, 0, 0), 1);
+        }
+        for (String each : fails) {
+            is("4", Due.read(m, "pattern a if " + each + " wave x 1, 0; end end"), 0);
+            is("12 does not hold: " + each, m.run(0, 0, 0), 0);
+        }
+    }
+
     private static void breaks() {
         MarbleBath m = new MarbleBath();
         String text = "pattern a for i = 1 to 1999 end end "
@@ -613,6 +674,18 @@ public final class PromisesTest {
         is("21 tired: 90", m.to(500, 500, 5, 0), 590);
         m.drop(1023, 0, 512, 1);
         is("21 out of the rim by a drop", m.to(1023, 0, 6, 0), -1);
+        MarbleBath d = new MarbleBath();
+        d.drop(700, 200, 50, 6);
+        // u 30, v -40: forth root(5000) = 70: 30 * 70 / 50, -40 * 70 / 50; from 60, -80: root(7500) = 86
+        is("21 right and up", d.to(730, 160, 1, 0), 742);
+        is("21 right and up", d.to(730, 160, 1, 1), 144);
+        is("21 the middle", d.to(700, 200, 1, 0), 750);
+        is("20 right and up", d.from(760, 120, 1, 1), 751);
+        is("20 right and up", d.from(760, 120, 1, 2), 132);
+        is("20 the drop is fact 0", d.from(700, 200, 1, 0), 0);
+        // u -700, v 823: D 1167329, root 1080; root(1164829) = 1079
+        is("20 from the rim's corner", d.from(0, 1023, 1, 1), 1);
+        is("20 from the rim's corner", d.from(0, 1023, 1, 2), 1022);
     }
 
     // ---- promise 22
@@ -716,6 +789,26 @@ public final class PromisesTest {
         is("25 the bath is less tired now", m.area(1, 6, n + 2), 1);
     }
 
+    /** Just so far that the middle of a cell is in the drop, and no more. */
+    private static void middles() {
+        for (int k = 0; k < 4; k++) {
+            int dx = k == 0 ? 10 : k == 1 ? -10 : 0;
+            int dy = k == 2 ? 10 : k == 3 ? -10 : 0;
+            MarbleBath m = new MarbleBath();
+            m.drop(64 * 4 + 32 + dx, 64 * 9 + 32 + dy, 10, 1);
+            m.drop(64 * 7 + 32 + dx, 64 * 3 + 32 + 5 + dy, 10, 1);
+            m.lay(5);
+            m.strike(0);
+            m.strike(1);
+            m.drop(64 * 4 + 32 + dx, 64 * 9 + 32 + dy, 13, 1);
+            m.drop(64 * 7 + 32 + dx, 64 * 3 + 32 + 5 + dy, 13, 1);
+            m.lay(5);
+            is("24 ten are not below ten", m.area(0, 1, 3), 0);
+            is("24 tired 13 are eleven", m.cell(1, 4, 9, 8), 1);
+            is("24 shaken", m.cell(1, 7, 3, 8), 1);
+        }
+    }
+
     // ---- promises 26 .. 30
     private static void piecesAndEdges() {
         MarbleBath m = new MarbleBath();
@@ -765,6 +858,64 @@ public final class PromisesTest {
         is("30 none such", m.unlike(-1, 0, n), -1);
         is("30 no such n", m.unlike(0, 0, -1), -1);
         ties();
+        windings();
+        fits();
+    }
+
+    /** A piece is followed to every side. */
+    private static void windings() {
+        int[][][] shapes = {
+            {{0, 5}, {1, 5}, {2, 5}, {2, 6}, {2, 7}, {1, 7}, {0, 7}},
+            {{0, 5}, {1, 5}, {1, 4}, {1, 3}, {0, 3}},
+            {{3, 9}, {4, 9}, {4, 8}, {4, 7}, {3, 7}, {2, 7}},
+            {{0, 0}, {0, 1}, {1, 0}}, {{0, 0}}, {{15, 15}}, {{15, 0}, {14, 0}}, {{0, 15}, {0, 14}, {0, 13}}};
+        for (int k = 0; k < shapes.length; k++) {
+            MarbleBath m = new MarbleBath();
+            for (int[] cell : shapes[k]) {
+                m.drop(64 * cell[0] + 32, 64 * cell[1] + 32, 15, 3);
+            }
+            m.lay(0);
+            int n = m.count(1);
+            is("25 shape " + k, m.area(0, 3, n), shapes[k].length);
+            is("26 shape " + k, m.pieces(0, n), 1);
+            is("27 shape " + k, m.largest(0, n), shapes[k].length);
+        }
+        MarbleBath two = new MarbleBath();
+        two.drop(32, 32, 15, 0);
+        two.drop(96, 32, 15, 1);
+        two.drop(32, 64 * 15 + 32, 15, 0);
+        two.drop(96, 64 * 14 + 32, 15, 0);
+        two.lay(0);
+        is("26 other colours, corners and rims do not hang together", two.pieces(0, 5), 4);
+        is("27 one each", two.largest(0, 5), 1);
+        is("25 colour 0", two.area(0, 0, 5), 3);
+    }
+
+    /** What is in columns 15 of the one and 0 of the other, and the shift that fits. */
+    private static void fit(int[] one, int[] other, int want) {
+        MarbleBath m = new MarbleBath();
+        for (int j : one) {
+            m.drop(992, 64 * j + 32, 15, 1);
+        }
+        m.lay(0);
+        for (int j : other) {
+            m.drop(32, 64 * j + 32, 15, 1);
+        }
+        m.lay(0);
+        is("29 " + java.util.Arrays.toString(one) + " by " + java.util.Arrays.toString(other),
+                m.match(0, 1, m.count(1)), want);
+    }
+
+    private static void fits() {
+        fit(new int[] {0, 15}, new int[] {0, 15}, 0);
+        fit(new int[] {0, 4, 15}, new int[] {0, 15}, -15);
+        fit(new int[] {}, new int[] {}, 0);
+        fit(new int[] {8}, new int[] {9}, 1);
+        fit(new int[] {9}, new int[] {8}, -1);
+        fit(new int[] {0}, new int[] {15}, -1);
+        fit(new int[] {15}, new int[] {0}, 1);
+        fit(new int[] {2, 5, 9, 14}, new int[] {5, 8, 12}, 3);
+        fit(new int[] {5, 8, 12}, new int[] {2, 5, 9}, -3);
     }
 
     /** Shares, not counts, decide; of alike ones the one below 0. */
@@ -836,6 +987,34 @@ public final class PromisesTest {
                 + "pattern b for i = 1 to 60 drop 1, 1, 1, 1; end end");
         is("31 60 strokes at most", m.made(2, n), 16);
         madeTiredAndShaken();
+        madeAtTheEdges();
+    }
+
+    private static void madeAtTheEdges() {
+        MarbleBath m = new MarbleBath();
+        m.drop(64 * 4 + 32, 64 * 5 + 32, 20, 1);
+        m.lay(0);
+        Due.read(m, "pattern a(p, q) drop 64 * p + 32, 64 * q + 32, 20, 1; end");
+        is("31 4 is not tried", m.made(0, 2), 0);
+        is("32 4 is not tried", m.off(0, 2), 2);
+        Due.read(m, "pattern a(p, q) drop 64 * p + 96, 64 * q + 160, 20, 1; end");
+        is("31 3 is", m.made(0, 2), 4 * 3 + 3);
+        MarbleBath full = new MarbleBath();
+        for (int i = 0; i < 9; i++) {
+            full.drop(i % 3 * 511, i / 3 * 511, 512, 1);
+        }
+        full.lay(0);
+        int n = full.count(1);
+        is("25 all of one colour", full.area(0, 1, n), 256);
+        is("26 one piece", full.pieces(0, n), 1);
+        is("27 all", full.largest(0, n), 256);
+        Due.read(full, "pattern bare(p) end");
+        is("31 wholly off", full.made(0, n), 0);
+        is("32 wholly off", full.off(0, n), 256);
+        is("33 parameters", full.row(0, 256, n), -2);
+        Due.read(full, "pattern bare end");
+        is("33 255", full.row(0, 255, n), -2);
+        is("33 256", full.row(0, 256, n), 1);
     }
 
     private static void madeTiredAndShaken() {
@@ -932,12 +1111,50 @@ public final class PromisesTest {
         is("33 666 deeds each are 1998", k.row(0, 0, n), 3);
         Due.read(k, "pattern q drop 32, 32, 120, 1; for i = 1 to 665 end end");
         is("33 667 deeds each are 2001", k.row(0, 0, n), -2);
+        k.strike(0);
+        int two = k.count(1);
+        Due.read(k, "pattern q drop 32, 32, 120, 1; for i = 1 to 998 end end");
+        is("33 twice 1000 deeds", k.row(0, 0, two), 2);
+        Due.read(k, "pattern q drop 32, 32, 120, 1; for i = 1 to 997 end if 1 == 1 end end pattern r end "
+                + "pattern s for i = 1 to 999 end end");
+        is("33 first of q, q", k.row(0, 0, two), 2);
+        Due.read(k, "pattern q drop 32, 32, 120, 1; for i = 1 to 999 end end");
+        is("33 twice 1001 deeds", k.row(0, 0, two), -2);
+        Due.read(k, "pattern q drop 32, 32, 120, 1; for i = 1 to 29 drop 1023, 1023, 1, 0; end end");
+        is("33 twice 30 strokes", k.row(0, 0, two), 2);
+        Due.read(k, "pattern q drop 32, 32, 120, 1; for i = 1 to 30 drop 1023, 1023, 1, 0; end end");
+        is("33 twice 31 strokes", k.row(0, 0, two), -2);
+        fourAreTooMany();
         Due.read(k, "pattern q drop 32, 32, 120, 1; for i = 1 to 664 end end pattern r do q; end");
         is("33 the first of alike ones", k.row(0, 0, n), 3);
         is("34 with q alone", k.rowed(2), 0);
         Due.read(k, "pattern z drop 1, 1, 1, 9; end pattern q drop 32, 32, 120, 1; end");
         is("33 one that breaks is left out", k.row(0, 0, n), 3);
         is("34", k.rowed(0) * 100 + k.rowed(1) * 10 + k.rowed(2), 111);
+    }
+
+    private static void fourAreTooMany() {
+        MarbleBath m = new MarbleBath();
+        for (int i = 0; i < 4; i++) {
+            m.drop(64 * i + 32, 32, 20, i);
+        }
+        m.lay(0);
+        Due.read(m, "pattern a drop 32, 32, 20, 0; end pattern b drop 96, 32, 20, 1; end "
+                + "pattern c drop 160, 32, 20, 2; end pattern d drop 224, 32, 20, 3; end");
+        is("33 four would be needed", m.row(0, 0, 5), -2);
+        is("34 none yet", m.rowed(0), -1);
+        is("33 three leave one off", m.row(0, 1, 5), 3);
+        is("34 a, b, c", m.rowed(0) * 100 + m.rowed(1) * 10 + m.rowed(2), 12);
+        m.strike(0);
+        m.strike(1);
+        is("33 two", m.row(0, 0, 7), 2);
+        is("34 c, d", m.rowed(0) * 10 + m.rowed(1), 23);
+        is("34 and no more", m.rowed(2), -1);
+        m.strike(2);
+        m.strike(3);
+        Due.read(m, "pattern w wave x 2, 0; end pattern v end");
+        is("33 a bare sheet", m.row(0, 0, 9), 1);
+        is("34 w", m.rowed(0), 0);
     }
 
     // ---- promise 35
