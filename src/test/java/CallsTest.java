@@ -20,7 +20,7 @@ public final class CallsTest {
         this.random = new Random(seed);
         this.due = due;
         this.seed = "object " + seed + ": ";
-        this.edgy = random.nextInt(3) == 0 ? 12 : 2;
+        this.edgy = random.nextInt(3) == 0 ? 12 : random.nextInt(6) == 0 ? 50 : 2;
         this.lays = random.nextInt(4) == 0;
         this.small = random.nextInt(4) == 0;
     }
