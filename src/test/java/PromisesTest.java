@@ -400,6 +400,15 @@ public final class PromisesTest {
         is("16 the last", m.kind(119), 0);
         is("16 behind it", m.kind(120), -1);
         is("35 all", m.count(1), 120);
+        is("35 all of them float", m.count(2), 120);
+        MarbleBath last = new MarbleBath();
+        for (int i = 0; i < 119; i++) {
+            last.wave(0, 2, 0);
+        }
+        is("6 the 120th", last.drop(700, 300, 20, 5), 119);
+        is("19 of the 120th", last.colour(700, 300, 120), 5);
+        is("20 the 120th", last.from(700, 300, 120, 0), 119);
+        is("21 by the 120th", last.to(700, 300, 120, 0), 720);
     }
 
     // ---- promises 12, 13, 14, 15
@@ -1125,12 +1134,31 @@ public final class PromisesTest {
         Due.read(k, "pattern q drop 32, 32, 120, 1; for i = 1 to 30 drop 1023, 1023, 1, 0; end end");
         is("33 twice 31 strokes", k.row(0, 0, two), -2);
         fourAreTooMany();
+        eightOfSixty();
         Due.read(k, "pattern q drop 32, 32, 120, 1; for i = 1 to 664 end end pattern r do q; end");
         is("33 the first of alike ones", k.row(0, 0, n), 3);
         is("34 with q alone", k.rowed(2), 0);
         Due.read(k, "pattern z drop 1, 1, 1, 9; end pattern q drop 32, 32, 120, 1; end");
         is("33 one that breaks is left out", k.row(0, 0, n), 3);
         is("34", k.rowed(0) * 100 + k.rowed(1) * 10 + k.rowed(2), 111);
+    }
+
+    /** Each of eight patterns may make sixty strokes by itself. */
+    private static void eightOfSixty() {
+        StringBuilder text = new StringBuilder();
+        for (char name = 'a'; name < 'i'; name++) {
+            text.append("pattern ").append(name).append(" for i = 1 to 59 wave x 2, 0; end drop 32, ")
+                    .append(64 * (name - 'a') + 32).append(", 20, 1; end ");
+        }
+        for (int j = 0; j < 8; j++) {
+            MarbleBath m = new MarbleBath();
+            m.drop(32, 64 * j + 32, 20, 1);
+            m.lay(0);
+            is("4", Due.read(m, text.toString()), 0);
+            is("33 sixty strokes of pattern " + j, m.row(0, 0, 2), 1);
+            is("34 pattern " + j, m.rowed(0), j);
+            is("31 sixty strokes of pattern " + j, m.made(0, 2), 16 * j);
+        }
     }
 
     private static void fourAreTooMany() {
