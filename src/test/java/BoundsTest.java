@@ -817,6 +817,28 @@ public final class BoundsTest {
         is("D 65 is not of it: ROOT(29) = 5 by 8: 2, 4", of.home(502, 503, 1), 1);
         // u 1, v 2: D 5, ROOT(41) = 6 by 2: 3, 6: D 45: ROOT(9) = 3 by 6: 1, 3
         is("one more", of.home(501, 502, 1), 1);
+        MarbleBath near = new MarbleBath();
+        near.drop(500, 500, 17, 3);
+        // u 3, v 3: D 18, ROOT(307) = 17 by 4: 12, 12: D 288, one below 289
+        is("comes to be of the drop", near.home(503, 503, 1), -2);
+        is("on the other side, too", near.home(497, 503, 1), -2);
+        // u 5, v 5: D 50, ROOT(339) = 18 by 7: 12, 12
+        is("and so does this one", near.home(505, 505, 1), -2);
+        // u 0, v 1: ROOT(290) = 17: D 289: ROOT(0): the middle
+        is("289 is not of it", near.home(500, 501, 1), 1);
+        // u 4, v 4: D 32, ROOT(321) = 17 by 5: 13, 13: D 338, ROOT(49) = 7 by 18: 5, 5
+        is("338 is not of it", near.home(504, 504, 1), 2);
+        MarbleBath three = new MarbleBath();
+        three.drop(500, 500, 3, 3);
+        // u 1, v 2: D 5, ROOT(14) = 3 by 2: 1, 3: D 10, one above 9: ROOT(1) = 1 by 3: 0, 1
+        is("10 is not of it", three.home(501, 502, 1), 2);
+        MarbleBath rim = new MarbleBath();
+        rim.line(0, 500, -20, 1023);
+        rim.drop(1023, 500, 5, 3);
+        // 1003: u -20: ROOT(425) = 20: stays; back ROOT(375) = 19: 1004, which came from 1024
+        is("comes to be from beyond the rim", rim.home(1023, 500, 2), -2);
+        // 1002: u -21: ROOT(466) = 21: stays; back ROOT(416) = 20: 1003, which came from 1023
+        is("comes to be from the rim", rim.home(1022, 500, 2), 1);
         MarbleBath line = new MarbleBath();
         line.drop(500, 500, 40, 3);
         line.line(0, 500, 30, 1);

@@ -250,7 +250,8 @@ public final class TextBoundsTest {
             whole("pattern a" + word + " end");
             if (word.length() > 1) {
                 whole("pattern " + word.substring(0, word.length() - 1) + " end");
-                whole("pattern " + word.substring(1).replace("or", "o") + " end");
+                // what is left of for is a word again
+                whole("pattern " + (word.equals("for") ? "fr" : word.substring(1)) + " end");
             }
             whole("pattern " + word + "z end");
             fault(SYNTAX, "pattern p end ^" + word + "s p end");
