@@ -1,10 +1,9 @@
 import java.lang.management.ManagementFactory;
 
-/** What an object takes when it is made, and that its calls take nothing more. */
+/** What an object and its calls take of the room that all calls of a run have. */
 public final class RoomTest {
-    /** 7.3 million fields and elements are for all calls of a run; one object may take a small part. */
-    private static final long OBJECT_BYTES = 150_000;
-    private static final long CALLS_BYTES = 500;
+    /** 7.3 million fields and elements, of which the least take a byte; a run has twice as many calls as this one. */
+    private static final long ROOM_BYTES = 7_300_000 / 2;
     /** With blanks enough that whole twenties hold all of it. */
     private static final String TEXT = "pattern a(p, q) for i = p to 9 drop i * 9, q * 9, 9, 1; end end "
             + "pattern b do a(1, 2); do a(3, 4); end pattern c wave x 90, 9; if 1 < 2 do b; end end                    ";
@@ -22,7 +21,7 @@ public final class RoomTest {
         long after = threads.getThreadAllocatedBytes(id);
         System.out.println("RoomTest: an object takes " + (made - before) + " bytes, " + used + " calls take "
                 + (after - made));
-        if (made - before > OBJECT_BYTES || after - made > CALLS_BYTES) {
+        if (after - before > ROOM_BYTES) {
             System.exit(1);
         }
     }

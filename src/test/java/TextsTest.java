@@ -51,7 +51,9 @@ public final class TextsTest {
             }
         }
         due.is("facts of " + text, bath.count(1), second.facts.size());
-        for (int fact = 0; fact < second.facts.size(); fact++) {
+        // no more than some fifty of them, so that the object is asked 512 calls at most
+        int step = 1 + second.facts.size() / 50;
+        for (int fact = random.nextInt(step); fact < second.facts.size(); fact += step) {
             due.is("kind(" + fact + ") of " + text, bath.kind(fact), second.kind(fact));
             for (int i = 0; i < 6; i++) {
                 due.is("number(" + fact + ", " + i + ") of " + text, bath.number(fact, i), second.number(fact, i));
